@@ -42,6 +42,12 @@ public final class CountsTest {
         }
         due("24: by the text", t.winter(9999 * 48), 48);
         due("24: one more", t.winter(9999 * 48 + 1), -1);
+        WoodStack cold = Check.ruled(2, "heat kind*5;");
+        cold.lay(0, 0, 1, 0);
+        cold.lay(0, 1, 1, 0);
+        cold.lay(0, 0, 1, 0);
+        due("24: none twice", cold.winter(6), -1);
+        due("24: one that warms", cold.winter(5), 1);
     }
 
     private static void remember() {
@@ -151,6 +157,17 @@ public final class CountsTest {
         x.image();
         x.back();
         due("29: fallen is of it", x.about(1), 2);
+        WoodStack face = new WoodStack(2);
+        face.lay(0, 0, 1, 1);
+        face.lay(0, 0, 1, 1);
+        face.remember();
+        face.image();
+        face.take(2);
+        face.remember();
+        due("29: another face", face.missing(-1, 1), 0);
+        face.back();
+        face.take(2);
+        due("29: the face of it", face.missing(-1, 1), 2);
         WoodStack y = new WoodStack(2);
         y.remember();
         y.back();

@@ -184,6 +184,8 @@ public final class StackTest {
         due("8: crossed unchanged", x.about(6), 1);
         due("8: side unchanged", x.about(7), 1);
         due("8: none", x.ends(0, false, 0), true);
+        due("8: not crossed any more", x.about(6), 0);
+        due("8: stands less", x.stack(1), 40);
         due("8: crossed alone", x.ends(0, true, 0), true);
         due("8: stands so", x.stack(1), 55);
     }
@@ -266,6 +268,14 @@ public final class StackTest {
         t.lay(1, 0, 1, 300);
         t.ends(3, true, 0);
         due("16: stand by the text", t.stack(1), 2000 - 200 - 30 - 1);
+        t.lay(0, 0, 1, 300);
+        t.lay(0, 0, 1, 300);
+        due("16: stand, the tallest is on the left", t.stack(1), 2000 - 300 - 30 - 1);
+        t.take(5);
+        due("16: stand without splits", t.stack(1), 2000 - 30 - 1);
+        t.weather(0, 0, 0, 0);
+        t.week(0);
+        due("16: stand without splits, a week on", t.stack(1), 2000 - 30 - 1 - 1);
         t.by(Check.read(t, "stand 0-1;"));
         due("16: stand at least 0", t.stack(1), 0);
         t.by(Check.read(t, "stand 9999+1;"));
@@ -298,7 +308,8 @@ public final class StackTest {
         WoodStack z = Check.ruled(2, "beetle 1<1;beetle 1<=0;beetle 1>1;beetle 0>=1;beetle 1=2;beetle 1#1;beetle not 1=1;beetle 1=1 and 1=2;");
         z.lay(0, 0, 1, 9);
         due("16: none of the signs is so", z.stack(6), 0);
-        String[] so = {"0<1", "1<=1", "1>0", "1>=1", "2=2", "1#2", "not not 1=1", "1=2 or 1=1", "1=1 or 1=1 and 1=2"};
+        String[] so = {"0<1", "1<=1", "1>0", "1>=1", "2=2", "1#2", "not not 1=1", "1=2 or 1=1", "1=1 or 1=1 and 1=2",
+            "0<1 and 1=1", "1<=1 and 1=1", "1>0 and 1=1", "1>=1 and 1=1", "not 0<0 and 0<1 or 1<0"};
         for (String ask : so) {
             WoodStack s = Check.ruled(2, "beetle " + ask + ";");
             s.lay(0, 0, 1, 9);
@@ -343,6 +354,13 @@ public final class StackTest {
         due("17: cut towards 0 below 0", y.of(1, 0, 2), 10 - (-390) * (2 - 3) / 40);
         due("17: two beside", y.of(0, 0, 2), 10);
         due("17: three beside", y.of(0, 1, 2), 10 - 390 / 40);
+        WoodStack last = new WoodStack(2);
+        last.lay(0, 0, 1, 400);
+        for (int i = 0; i < 12; i++) {
+            last.weather(i == 11 ? 8 : 0, 0, 0, 0);
+        }
+        last.week(11);
+        due("17: by the twelfth", last.of(0, 0, 2), 300);
     }
 
     private static void weekByText() {
@@ -373,6 +391,9 @@ public final class StackTest {
         r.lay(0, 0, 1, 2000);
         r.week(0);
         due("17: at each step, from the left", r.of(0, 0, 2), 2000 - (100 - 8 + 300));
+        WoodStack deep = Check.ruled(2, "beetle 1=0 or 1=1 and 9=" + "1+1*max(0,".repeat(8) + "1+0*1" + ")".repeat(8) + ";");
+        deep.lay(0, 0, 1, 1);
+        due("16: eight within one another", deep.stack(6), 1);
         WoodStack s = Check.ruled(2, "dry 9999*9999/1000-990-9*-1+20/3*3-7/-2;");
         s.weather(0, 0, 0, 0);
         s.lay(0, 0, 1, 2000);
@@ -475,6 +496,7 @@ public final class StackTest {
         x.lay(1, 0, 3, 40);
         x.lay(1, 0, 4, 50);
         x.lay(1, 2, 6, 60);
+        x.lay(1, 3, 7, 70);
         x.bark(1, 2, false);
         x.measure(1, 2, 5, 6);
         x.week(0);
@@ -486,7 +508,10 @@ public final class StackTest {
         due("18: with their bark", x.of(1, 1, 3), 0);
         due("18: with what was measured", x.of(1, 1, 4), 5);
         due("18: with what was measured, high", x.of(1, 1, 5), 6);
-        due("18: none is left above", x.of(1, 2, 0), -1);
+        due("18: the next one, its kind", x.of(1, 2, 0), 3);
+        due("18: the next one, its bark", x.of(1, 2, 3), 1);
+        due("18: the next one, not measured", x.of(1, 2, 4), -1);
+        due("18: none is left above", x.of(1, 3, 0), -1);
         WoodStack y = new WoodStack(2);
         y.weather(0, 0, 0, 0);
         y.lay(0, 0, 20, 100);

@@ -97,6 +97,13 @@ public final class TextTest {
         x.image();
         Check.read(x, "dry 1;");
         due("12: the latest", x.fault(0), 0);
+        due("12: the latest, place", x.fault(1), -1);
+        for (int i = 0; i < 5; i++) {
+            due("12: a long one", Check.read(x, "heat 1" + "+1".repeat(140) + "!"), -1);
+        }
+        x.lay(0, 0, 1, 1);
+        x.by(Check.read(x, "heat 1" + "+1".repeat(140) + ";"));
+        due("12: leaves nothing behind", x.of(0, 0, 7), 141);
     }
 
     /** Holds the fault of a text and its place; 0 for one without. */
@@ -169,6 +176,8 @@ public final class TextTest {
         read("dry 1\0;", 1, 5);
         read("dry 1.5;", 1, 5);
         read("dry min 1;", 1, 8);
+        read("dry min;", 1, 7);
+        read("dry max", 1, 7);
         read("dry min(1);", 1, 9);
         read("dry max(1,2;", 1, 11);
         read("dry max(1,2,3);", 1, 11);
@@ -223,6 +232,8 @@ public final class TextTest {
         read("heat ((((((((min 1", 1, 17);
         read("heat (((((((min(1,2))))))));", 0, -1);
         read("heat (((((((min((1),2))))))));", 3, 16);
+        read("heat (((((((min(1,(2)))))))));", 3, 18);
+        read("heat max(1,((((((((1))))))));", 3, 18);
         read("heat ((((((((-1))))))));", 3, 13);
         read("heat ((((((((1))))))))+(((((((((1)))))))));", 3, 31);
         read("heat -(-(-(-(-1))));", 3, 13);

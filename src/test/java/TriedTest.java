@@ -114,6 +114,16 @@ public final class TriedTest {
         side.lay(2, 0, 1, 500);
         due("20: on the sun's side", side.way(1, -1, 0), 4);
         due("20: both there", side.way(1, -1, 2), 4);
+        WoodStack down = Check.ruled(3, "dry 400-bark*400;stand 9999;");
+        down.weather(0, 0, 0, 0);
+        down.lay(0, 0, 1, 500);
+        due("20: bark down", down.way(1, -1, 0), 1);
+        due("20: both, bark down", down.way(1, -1, 2), 1);
+        WoodStack up = Check.ruled(3, "dry bark*301;stand 9999;");
+        up.weather(0, 0, 0, 0);
+        up.lay(0, 0, 1, 502);
+        due("20: bark up", up.way(1, 0, 0), 0);
+        due("20: all alike", up.way(1, -1, 2), 0);
     }
 
     private static void wayOfNone() {
@@ -200,6 +210,9 @@ public final class TriedTest {
         y.span(0, 0, 10);
         y.span(1, 0, 11);
         due("22: the widest", y.sure(0, 2), 1);
+        y.span(0, 5, 5);
+        y.span(1, 6, 7);
+        due("22: by one alone", y.sure(0, 2), 1);
     }
 
     private static void small() {
@@ -212,6 +225,7 @@ public final class TriedTest {
         due("23: just wetter", x.small(0, 401, 1), 9);
         due("23: two weeks", x.small(0, 400, 2), 20);
         due("23: two weeks, wet", x.small(3, 2000, 2), 2);
+        due("23: the least", x.small(3, 2000, 1), 1);
         due("23: even the least", Check.ruled(2, "dry 0;").small(0, 2000, 0), -1);
         due("23: kind -1", x.small(-1, 0, 1), -1);
         due("23: kind 4", x.small(4, 0, 1), -1);
@@ -274,6 +288,32 @@ public final class TriedTest {
         due("27: the clock stays", x.about(1), 0);
         x.week(1);
         due("27: fallen now is fallen then", x.falls(0, 7, 1), 7);
+        drawnWeathers();
+    }
+
+    /** Each weather but the eleventh lets it stand; the draws are reckoned here once more. */
+    private static void drawnWeathers() {
+        WoodStack x = Check.ruled(2, "dry wind*100*sunny;thick water/10;stand 20;");
+        x.lay(0, 0, 5, 300);
+        x.lay(1, 0, 5, 300);
+        for (int i = 0; i < 11; i++) {
+            x.weather(i == 10 ? 5 : 0, 0, 0, 0);
+        }
+        for (int seed = 0; seed < 10000; seed += 331) {
+            int falls = 40;
+            long draw = seed * 7 + 4;
+            for (int week = 0; week < 40; week++) {
+                falls = draw % 11 == 10 ? Math.min(falls, week) : falls;
+                draw = (draw * 163 + 31) % 30097;
+            }
+            for (int n = 1; n <= 40; n += 13) {
+                due("27: seed " + seed + " in " + n, x.falls(seed, 1, n), falls < n ? 1 : 0);
+            }
+        }
+        WoodStack one = Check.ruled(2, "stand 0;");
+        one.weather(0, 0, 0, 0);
+        one.lay(0, 0, 5, 300);
+        due("27: one weather", one.falls(3, 5, 1), 5);
     }
 
     private static void withoutWeathers() {
