@@ -15,7 +15,7 @@ public final class CountsTest {
     }
 
     private static void due(String call, long got, long want) {
-        CHECK.due(call, got, want);
+        CHECK.due("Promise " + call, got, want);
     }
 
     private static void winter() {
@@ -246,6 +246,6 @@ public final class CountsTest {
     }
 
     private static void constants() {
-        due("NONE", WoodStack.NONE, -1);
+        CHECK.due("the constant NONE", WoodStack.NONE, -1);
     }
 }

@@ -25,11 +25,11 @@ public final class StackTest {
     }
 
     private static void due(String call, long got, long want) {
-        CHECK.due(call, got, want);
+        CHECK.due("Promise " + call, got, want);
     }
 
     private static void due(String call, boolean got, boolean want) {
-        CHECK.due(call, got, want);
+        CHECK.due("Promise " + call, got, want);
     }
 
     private static void newObject() {

@@ -135,6 +135,8 @@ final class TextEdges {
         String blank = " ".repeat(299) + "!";
         Check.read(x, blank);
         e.due("the last byte of 300", x.fault(1), 299);
+        Check.read(x, ";".repeat(300));
+        e.due("300 signs", x.fault(1), 0);
         String word = "a".repeat(300);
         Check.read(x, word);
         e.due("a word of 300", x.fault(1), 0);

@@ -17,7 +17,7 @@ public final class TriedTest {
     }
 
     private static void due(String call, long got, long want) {
-        CHECK.due(call, got, want);
+        CHECK.due("Promise " + call, got, want);
     }
 
     private static void order() {

@@ -19,6 +19,9 @@ final class WeekEdges {
         airWithoutSplits();
         airOfFullColumns();
         beetlesOfNone();
+        likeSums();
+        namesOfASplit();
+        namesOfStand();
         besideInAFullStack();
         weekOutside();
         withoutWeathers();
@@ -190,6 +193,73 @@ final class WeekEdges {
         e.due("each split once", x.stack(6), 48);
         x.take(48);
         e.due("no splits", x.stack(6), 0);
+    }
+
+    private void likeSums() {
+        e.promise(16, "ASK: not ASK, or SUM one of < <= > >= = # (unlike) SUM.");
+        String[] signs = {"<", "<=", ">", ">=", "=", "#"};
+        String[] so = {"100", "110", "001", "011", "010", "101"};
+        for (int i = 0; i < signs.length; i++) {
+            for (int less = -1; less <= 1; less++) {
+                int want = so[i].charAt(less + 1) - '0';
+                String ask = (500 + less) + signs[i] + "water";
+                beetles(ask, want);
+                beetles("not " + ask, 1 - want);
+                beetles("not not " + ask, want);
+                beetles(ask + " and 1=1", want);
+                beetles("1=1 and " + ask, want);
+                beetles(ask + " or 1=2", want);
+                beetles("1=2 or " + ask, want);
+            }
+        }
+        beetles("1=1 or 1=1 and 1=2", 1);
+        beetles("1=2 and 1=1 or 1=1", 1);
+        beetles("not 1=2 and 1=2", 0);
+        beetles("-1000*1000=-9999*9999", 1);
+    }
+
+    /** How many of one split of size 10 and water 500 have beetles. */
+    private void beetles(String ask, int want) {
+        WoodStack x = Check.ruled(2, "beetle " + ask + ";");
+        x.lay(0, 0, 10, 500);
+        e.due(ask, x.stack(6), want);
+    }
+
+    private void namesOfASplit() {
+        e.promise(15, "water size kind bark (1, 0) high (its z) top (1: none lies on it) beside");
+        int[][] splits = {{0, 1, 0}, {3, 20, 2000}, {1, 2, 1}, {2, 19, 1999}, {0, 1, 0}, {0, 1, 0}, {0, 1, 0}, {3, 20, 2000}};
+        String[] names = {"kind", "size", "water", "bark", "high", "top", "beside", "sunny", "week"};
+        for (int i = 0; i < names.length; i++) {
+            WoodStack x = Check.ruled(2, "heat 5000+" + names[i] + ";");
+            for (int[] split : splits) {
+                x.lay(1, split[0], split[1], split[2]);
+            }
+            x.bark(1, 7, false);
+            for (int z = 0; z < 8; z++) {
+                int[] want = {splits[z][0], splits[z][1], splits[z][2], z == 7 ? 0 : 1, z, z == 7 ? 1 : 0, z == 0 || z == 7 ? 1 : 2, 0, 0};
+                e.due(names[i] + " of " + z, x.of(1, z, 7), 5000 + want[i]);
+            }
+        }
+        WoodStack late = Edges.atWeek(399);
+        late.by(Check.read(late, "heat week;stand week;"));
+        e.due("the last week", late.of(0, 0, 7), 399);
+        e.due("the last week of stand", late.stack(1), 399);
+    }
+
+    private void namesOfStand() {
+        e.promise(16, "of stand: wide (W), tall (the most SPLITS of a COLUMN), posts, crossed (1, 0), week");
+        for (int w = 2; w <= 6; w++) {
+            WoodStack x = Check.ruled(w, "stand wide*1000+tall*100+posts*10+crossed;");
+            e.due("without splits, of " + w, x.stack(1), w * 1000);
+            x.ends(9, true, 0);
+            for (int z = 0; z < 8; z++) {
+                x.lay(z % 2 == 0 ? 0 : w - 1, 0, 1, 1);
+                x.lay(w / 2, 0, 1, 1);
+            }
+            e.due("a full column, of " + w, x.stack(1), w * 1000 + 800 + 91);
+            x.take(x.stack(3));
+            e.due("all taken, of " + w, x.stack(1), w * 1000 + 91);
+        }
     }
 
     private void besideInAFullStack() {
