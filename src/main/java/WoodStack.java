@@ -1037,11 +1037,11 @@ public final class WoodStack {
         }
 
         private int token() {
-            return within(at, 0, tokens.count - 1) ? tokens.token[at] : THE_END;
+            return at >= 0 && at < tokens.count ? tokens.token[at] : THE_END;
         }
 
         private int number() {
-            return within(at, 0, tokens.count - 1) ? tokens.value[at] : 0;
+            return at >= 0 && at < tokens.count ? tokens.value[at] : 0;
         }
 
         private void step() {
@@ -1053,7 +1053,7 @@ public final class WoodStack {
         private void fail(int newFault) {
             if (fault == 0) {
                 fault = newFault;
-                place = within(at, 0, tokens.count - 1) ? tokens.place[at] : 0;
+                place = at >= 0 && at < tokens.count ? tokens.place[at] : 0;
             }
         }
 

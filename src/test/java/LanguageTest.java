@@ -1,4 +1,3 @@
-import java.io.IOException;
 import java.lang.reflect.Field;
 import java.lang.reflect.Member;
 import java.lang.reflect.Method;
@@ -24,7 +23,7 @@ public final class LanguageTest {
         "int small(int,int,int)", "int winter(int)", "int remember()", "int missing(int,int)", "int falls(int,int,int)",
         "int image()", "int back()", "int about(int)"};
 
-    public static void main(String[] args) throws IOException {
+    public static void main(String[] args) throws Exception {
         String source = Files.readString(Path.of(args.length > 0 ? args[0] : "src/main/java/WoodStack.java"));
         face();
         for (Class<?> inside : classes()) {
@@ -32,6 +31,7 @@ public final class LanguageTest {
         }
         words(bare(source));
         methodLengths(source);
+        callDepths();
         CHECK.finish();
     }
 
@@ -105,6 +105,19 @@ public final class LanguageTest {
         Matcher library = Pattern.compile("\\b(Math|System|Arrays|Long|String)\\.(\\w+)").matcher(code);
         while (library.find()) {
             so("4: " + library.group(), List.of("Math.max", "Math.min", "Math.abs", "System.arraycopy").contains(library.group()));
+        }
+    }
+
+    private static void callDepths() throws Exception {
+        CallDepth depth = new CallDepth();
+        if (!depth.look(classes())) {
+            System.out.println("this JDK has no javap: how deep calls go is not looked at");
+            return;
+        }
+        so("11: all public methods and the constructor are seen: " + depth.shown(), depth.shown().size() == FACE.length + 1);
+        for (String method : depth.shown()) {
+            List<String> longest = depth.longest(method);
+            so("11: calls go at most eight deep: " + longest, longest.size() <= 8);
         }
     }
 
