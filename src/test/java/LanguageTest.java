@@ -117,8 +117,18 @@ public final class LanguageTest {
         so("11: all public methods and the constructor are seen: " + depth.shown(), depth.shown().size() == FACE.length + 1);
         for (String method : depth.shown()) {
             List<String> longest = depth.longest(method);
-            so("11: calls go at most eight deep: " + longest, longest.size() <= 8);
+            so("Promise " + promiseOf(method) + " keeps to rule 11, calls go at most eight deep: " + longest, longest.size() <= 8);
         }
+    }
+
+    /** The face stands in the order of the promises, behind the constructor's, the first. */
+    private static int promiseOf(String method) {
+        for (int i = 0; i < FACE.length; i++) {
+            if (FACE[i].contains(" " + method.substring(method.indexOf('.') + 1) + "(")) {
+                return i + 2;
+            }
+        }
+        return 1;
     }
 
     private static void methodLengths(String source) {
